@@ -8,7 +8,7 @@ public final class CaseTrials {
 
     // what a call answers beside the refusals
     private static final int GIVES_UP = -5, SPENT = -6, THREW = -10;
-    private static final long NO_SIGN = Long.MIN_VALUE;
+    private static final long NO_SIGN = -9223372036854775808L;
 
     // kinds of makers; the last two are parts of a case that no maker of their own makes:
     // a leaf of a shuffled row, and the leaf that stands behind the case in a below
@@ -158,17 +158,14 @@ public final class CaseTrials {
     // ---- 2 checks
 
     public int check(int kind, int a, int b) {
-        if (kind < 0 || kind > Check.MACHINE) {
+        if (kind < 0 || kind > Check.MACHINE || (kind == Check.MACHINE && !isMachine(a, b))) {
             return OUTSIDE;
         }
-        if (kind == Check.MACHINE && !isMachine(a, b)) {
-            return OUTSIDE;
-        }
-        boolean two = kind == Check.BOTH || kind == Check.EITHER;
-        if ((two || kind == Check.NOT) && !judge.knows(a) || two && !judge.knows(b)) {
+        Check check = new Check(kind, a, b);
+        if ((check.asksFirst() && !judge.knows(a)) || (check.asksSecond() && !judge.knows(b))) {
             return UNKNOWN;
         }
-        return judge.add(new Check(kind, a, b));
+        return judge.add(check);
     }
 
     // ---- 3 cases
