@@ -466,11 +466,14 @@ public final class CaseTrials {
         /** Adds a case of a maker to the tree: MADE, GIVES_UP or SPENT. */
         private int grow(int number, int parent, int depth) {
             Maker maker = at(number);
-            // a maker is made of earlier ones only, so neither a missing nor a deeper one is ever come to
+            // a maker is made of earlier ones only, and its weight bounds its parts, so this never comes to be
             if (maker == null || depth >= MAKERS) {
                 return GIVES_UP;
             }
             int part = tree.add(maker.kind, 0, parent);
+            if (part < 0) {
+                return GIVES_UP;
+            }
             int made = MADE;
             switch (maker.kind) {
                 case WHOLE:

@@ -478,16 +478,21 @@ public final class PromisesTest {
         due("sum of none", holdsOf(0, 1, 0), 1);
         due("all from", holdsOf(1, 2, 0, 2, 4), 1);
         due("not all from", holdsOf(1, 3, 0, 4, 2), 0);
+        due("not all from: the first", holdsOf(1, 3, 0, 2, 4), 0);
         due("all of none", holdsOf(1, MAX, 0), 1);
         due("fewer", holdsOf(2, 3, 0, 4, 2), 1);
         due("not fewer", holdsOf(2, 2, 0, 4, 2), 0);
         due("none are fewer than 1", holdsOf(2, 1, 0), 1);
         due("rise", holdsOf(3, 0, 0, 1, 1, 2), 1);
         due("fall", holdsOf(3, 0, 0, 1, 3, 2), 0);
+        due("fall at once", holdsOf(3, 0, 0, 2, 1), 0);
+        due("fall at once, then rise", holdsOf(3, 0, 0, 2, 1, 7), 0);
         due("one rises", holdsOf(3, 0, 0, 9), 1);
         due("none rise", holdsOf(3, 0, 0), 1);
         due("differ", holdsOf(4, 0, 0, 1, 3, 2), 1);
         due("alike", holdsOf(4, 0, 0, 3, 1, 3), 0);
+        due("two alike", holdsOf(4, 0, 0, 3, 3), 0);
+        due("the last two alike", holdsOf(4, 0, 0, 1, 3, 3), 0);
         due("none are alike", holdsOf(4, 0, 0), 1);
         due("sum by 3", holdsOf(5, 3, 0, 2, 4), 1);
         due("sum by 4", holdsOf(5, 4, 0, 2, 4), 0);
@@ -577,6 +582,7 @@ public final class PromisesTest {
         dueScript(0, 2, two, 1, 1, 4, 4, 9, 0, -1);
         dueScript(1, 2, two, 1, 1, 9, 9, 4, 0, -1);
         dueScript(2, 2, two, 1, 1, 1, 4, 9, 0, 0);
+        dueScript(2, 0, new int[] {0, 6, 0, 6, 0, 2, 2, 6, 2, 2, 2, 4, 3, 6}, 1, 1, 1, 2, 1, 0, 3);
         // acts are remainders made not below 0; a last leaf alone is left out
         dueScript(0, 0, new int[] {-4, 7, -1, 0, -2, 0, -3, 0, 5}, 1, 1, 7, 7);
         dueScript(2, 0, new int[] {1000, -1, 7, 0, 401, 0}, 1, 1, -1);
@@ -599,18 +605,20 @@ public final class PromisesTest {
         int take = x.whole(1, 1);
         int three = x.pair(put, x.whole(3, 3));
         int nine = x.pair(put, x.whole(9, 9));
+        int seven = x.pair(put, x.whole(7, 7));
         int one = x.pair(put, x.whole(1, 1));
-        int filled = x.pair(x.pair(three, x.pair(nine, nine)), x.pair(one, nine));
+        int filled = x.pair(x.pair(three, x.pair(seven, nine)), x.pair(one, seven));
         int over = x.pair(filled, x.pair(put, x.whole(4, 4)));
         int takes = x.pair(take, take);
-        x.make(x.pair(over, x.pair(takes, x.pair(takes, x.pair(takes, takes)))), 0, 0);
-        // places hold 3 9 9 1 9, then 4 comes
+        int allTakes = x.pair(takes, x.pair(takes, x.pair(takes, x.pair(takes, takes))));
+        x.make(x.pair(over, allTakes), 0, 0);
+        // places hold 3 7 9 1 7, then 4 comes
         long[][] want = {
-            {0, 9, 1, 9, 9}, {1, 4, 9, 1, 9},
-            {0, 3, 9, 9, 1}, {1, 9, 9, 1, 9},
-            {0, 1, 3, 9, 9}, {1, 1, 3, 4, 9}};
+            {0, 7, 1, 9, 7, 3}, {1, 4, 7, 1, 9, 7},
+            {0, 3, 7, 9, 1, 7}, {1, 7, 9, 1, 7, 4},
+            {0, 1, 3, 7, 7, 9}, {1, 1, 3, 4, 7, 7}};
         for (int i = 0; i < want.length; i++) {
-            for (int j = 0; j < 5; j++) {
+            for (int j = 0; j < 6; j++) {
                 due("full machine " + i / 2 + ", fault " + i % 2 + ", act " + (5 + j),
                         x.script(i / 2, i % 2, 5 + j, 2), want[i][j]);
             }
@@ -627,6 +635,7 @@ public final class PromisesTest {
             due("full: fault 2 does", x.holds(x.check(11, m, 2)), 1);
             due("full: fault 3 throws", x.holds(x.check(11, m, 3)), -13);
         }
+        due("a last leaf alone is left out", holdsOf(11, 1, 2, 0, 5, 1, 0, 1), 1);
         CaseTrials y = showing(1, 0, 0);
         for (int m = 0; m < 3; m++) {
             due("empty: fault 1", y.holds(y.check(11, m, 1)), 1);
@@ -823,6 +832,8 @@ public final class PromisesTest {
         // the inner one's second is lowered first, so the sum of the outer one's first is lower too
         dueText("smaller below of below", smallerOnes(x, twice, seed), "[[0 0] 0] [[2 0] 0] [[3 3] 5] [[4 0] 0] "
                 + "[[4 2] 5] [[4 3] 0] [[4 3] 3] [[4 3] 4]");
+        seed = seedThatShows(x, below, "[1 1]");
+        dueText("smaller below of 1", smallerOnes(x, below, seed), "[0 0] [1 0]");
         int mapped = x.below(x.mapped(digit, 0));
         seed = seedThatShows(x, mapped, "[-2 0]");
         dueText("smaller below of what is below 0", smallerOnes(x, mapped, seed), "[0 0] [-1 0]");
@@ -908,6 +919,106 @@ public final class PromisesTest {
         for (int k = 0; k <= 1000; k++) {
             due("draw " + k, x.draw(123456789, k, 1000), d.below(1000));
         }
+    }
+
+    /** Where a case is made or made smaller within another one. */
+    private static void partsOfOthers() {
+        CaseTrials x = new CaseTrials();
+        int digit = x.whole(0, 9);
+        int low = x.picked(digit, x.check(0, 3, 0));
+        int pair = x.pair(x.whole(500, 500), low);
+        long fits = seedOf(10, 4, 8, 2);
+        x.check(0, 0, 0);
+        due("picked behind another", x.make(pair, seedThatShows(x, pair, "[500 2]"), 24), 6);
+        int below = x.pair(x.whole(500, 500), x.below(digit));
+        for (long seed = 0; seed < 20; seed++) {
+            x.make(below, seed, 24);
+            long first = x.sign(7);
+            due("below behind another", x.sign(9), x.draw(seed, 2, (int) first + 1));
+        }
+        x.make(low, fits, 0);
+        due("picked at the third", x.sign(1), 2);
+        int never = x.picked(digit, 1);
+        int list = x.listOf(never, 2);
+        long seed = seedOf(3, 1);
+        due("a list gives up", x.make(list, seed, 24), GIVES_UP);
+        due("a pair gives up by its first", x.make(x.pair(never, digit), 0, 0), GIVES_UP);
+        due("a pair gives up by its second", x.make(x.pair(digit, never), 0, 0), GIVES_UP);
+        due("a below gives up", x.make(x.below(never), 0, 0), GIVES_UP);
+        due("a mapped one gives up", x.make(x.mapped(never, 0), 0, 0), GIVES_UP);
+        due("one of gives up", x.make(x.oneOf(never, 1, never, 1), 0, 0), GIVES_UP);
+        spend(x, x.property(digit, x.check(0, MAX, 0)), 0);
+        due("a list is spent", x.make(list, seed, 24), SPENT);
+        due("a pair is spent", x.make(x.pair(digit, never), 0, 0), SPENT);
+        due("a below is spent", x.make(x.below(never), 0, 0), SPENT);
+        due("a mapped one is spent", x.make(x.mapped(never, 0), 0, 0), SPENT);
+        due("a list of none is made", x.make(list, seedOf(3, 0), 24), 2);
+        due("a run is spent in a list", x.run(x.property(list, 0), seed, 1, 24), 3);
+        due("a run is spent in a list: made", x.ran(1), 0);
+    }
+
+    /** What is told of parts behind a dropped one must tell of their new places. */
+    private static void smallerAfterDrops() {
+        CaseTrials x = new CaseTrials();
+        int below = x.below(x.mapped(x.whole(0, 3), 1));
+        int list = x.listOf(below, 4);
+        x.make(list, seedThatShows(x, list, "[[2 0] [6 5] [4 1]]"), 24);
+        x.smaller(1);
+        dueCase("without the first", x, "[[6 5] [4 1]]");
+        x.smaller(3);
+        dueCase("its first to 0", x, "[[0 0] [4 1]]");
+        x.smaller(4);
+        dueCase("the second's first to 2 less 1, twice", x, "[[0 0] [2 1]]");
+        x.smaller(1);
+        dueCase("without the first", x, "[[2 1]]");
+        int rows = x.listOf(x.listOf(x.whole(0, 9), 4), 4);
+        long seed = 0;
+        do {
+            seed++;
+            x.make(rows, seed, 24);
+        } while (!shown(x).matches("\\[\\[. . .\\] \\[. .\\] \\[. . . .\\]\\]"));
+        String all = shown(x);
+        String[] parts = all.substring(2, all.length() - 2).split("\\] \\[");
+        x.smaller(2);
+        dueCase("without the second", x, "[[" + parts[0] + "] [" + parts[2] + "]]");
+        x.smaller(3);
+        dueCase("without the first's leaves", x, "[[] [" + parts[2] + "]]");
+        x.smaller(4);
+        dueCase("without the second's first two", x, "[[] [" + parts[2].substring(4) + "]]");
+        due("seven leaves less", x.told(3), 2);
+        x.smaller(2);
+        dueCase("without the second", x, "[[]]");
+    }
+
+    private static void deepChains() {
+        CaseTrials x = new CaseTrials();
+        int m = x.whole(1, 1);
+        for (int i = 1; i < 24; i++) {
+            m = x.mapped(m, i % 2);
+        }
+        due("deep mapped", m, 23);
+        x.make(m, 0, 0);
+        dueCase("deep mapped", x, "" + -(1 << 12));
+        CaseTrials y = new CaseTrials();
+        m = y.whole(1, 1);
+        for (int i = 1; i < 24; i++) {
+            m = i % 2 == 0 ? y.pair(m, 0) : y.pair(0, m);
+        }
+        due("deep pairs", y.make(m, 0, 0), 2 * 24 + 2 * 23);
+        CaseTrials z = new CaseTrials();
+        m = z.whole(1, 1);
+        for (int i = 1; i < 30; i++) {
+            m = z.listOf(m, 1);
+        }
+        due("deep lists", m, 29);
+        due("deep lists: row of none", z.make(m, seedOf(2, 0), 24), 2);
+        due("deep lists: seven rows", z.make(m, seedOf(2, 1, 1, 1, 1, 1, 1, 0), 24), 14);
+        CaseTrials u = new CaseTrials();
+        m = u.picked(u.whole(1, 1), u.check(2, 2, 0));
+        for (int i = 2; i < 30; i++) {
+            m = u.oneOf(m, 100, m, 100);
+        }
+        due("deep choices", u.make(m, 4, 24), 2);
     }
 
     // ---- promises 18 to 23
@@ -1022,6 +1133,17 @@ public final class PromisesTest {
                 due("smaller one " + k + " of the end holds", x.holds(small), 1);
             }
         }
+        // the draws of a run's cases: each k has its own
+        CaseTrials y = new CaseTrials();
+        y.whole(0, 1000000);
+        int none = y.property(0, y.check(0, 990000, 0));
+        int k = 0;
+        while (new Draws(99 + k * -7046029254386353131L).below(1000001) < 990000) {
+            k++;
+        }
+        due("the first of 99 is not the first of its cases", k > 0 && k < 50 ? 1 : 0, 1);
+        y.run(none, 99, 50, 0);
+        due("the first of 99 that is 990000 or more", y.ran(2), k);
         // a later run that holds has no failing case
         int always = x.check(2, 25, 0);
         due("later run", x.run(x.property(list, always), 7, 3, 24), 0);
@@ -1193,6 +1315,9 @@ public final class PromisesTest {
         smallerPicked();
         smallerAsked();
         drawn();
+        partsOfOthers();
+        smallerAfterDrops();
+        deepChains();
         propertiesAndLabels();
         runsThatHold();
         runsThatFail();
