@@ -421,7 +421,7 @@ public final class PromisesTest {
             due("maker " + m + ": a picked one is in it", x.maker(m, 2), 1);
         }
         // the 30th is the last of each kind of call
-        while (x.told(0) < 30) {
+        for (int i = x.told(0); i < 30; i++) {
             x.whole(0, 0);
         }
         due("full: listOf", x.listOf(0, 1), FULL);
@@ -459,8 +459,8 @@ public final class PromisesTest {
             due("check " + kind + ": b not looked at", x.check(kind, -77, 77), 2 + kind);
         }
         due("check: told", x.told(1), 10);
-        while (x.told(1) < 40) {
-            x.check(8, x.told(1) - 1, x.told(1) - 1);
+        for (int i = x.told(1); i < 40; i++) {
+            x.check(8, i - 1, i - 1);
         }
         due("check: 41st", x.check(0, 0, 0), FULL);
         due("check: 41st, unknown", x.check(8, 0, 40), UNKNOWN);
@@ -976,7 +976,7 @@ public final class PromisesTest {
         do {
             seed++;
             x.make(rows, seed, 24);
-        } while (!shown(x).matches("\\[\\[. . .\\] \\[. .\\] \\[. . . .\\]\\]"));
+        } while (seed < 1000000 && !shown(x).matches("\\[\\[. . .\\] \\[. .\\] \\[. . . .\\]\\]"));
         String all = shown(x);
         String[] parts = all.substring(2, all.length() - 2).split("\\] \\[");
         x.smaller(2);
@@ -1208,7 +1208,7 @@ public final class PromisesTest {
     }
 
     private static void spend(CaseTrials x, int property, int leave) {
-        while (x.effort() > leave) {
+        for (int i = 0; i < 1500 && x.effort() > leave; i++) {
             x.run(property, 1, Math.min(50, x.effort() - leave), 0);
         }
     }
